@@ -104,6 +104,24 @@ public final class WordsTest {
         }
         Check.reads(x, "take lamp", 1);
         Check.order(x, 0, "0 0 -4 [1] []");
+        firstWordIsName();
+    }
+
+    private static void firstWordIsName() {
+        PronounOrders x = new PronounOrders();
+        x.thing(0);
+        Check.due("word 0, a name", Check.word(x, "old", 0), 0);
+        Check.due("word 1, a verb", Check.word(x, "take", 1), 1);
+        x.form(1, 1);
+        Check.due("an adjective of 1", x.name(0, 1, 1), 0);
+        Check.due("an adjective of 1 again", x.name(0, 1, 1), -2);
+        Check.fails(x, "take old", 4, 5, 0);
+        Check.due("a noun of 1", x.name(0, 1, 0), 0);
+        Check.due("a noun of 1 again", x.name(0, 1, 0), -2);
+        Check.reads(x, "take old old", 1);
+        Check.due("a noun of the player", x.name(0, 0, 0), 0);
+        Check.fails(x, "take old", 5, 5, 0);
+        Check.fails(x, "take old old", 5, 5, 0);
     }
 
     /** Promise 9. */
@@ -133,7 +151,7 @@ public final class WordsTest {
         int kindly = Check.word(x, "kindly", 3);
         int thing = Check.word(x, "thing", 0);
         int[][] bad = {{hold, hold}, {2, hold}, {hold, thing}, {hold, 7}, {hold, 4}, {kindly, 5}, {thing, 16}, {hold, 15},
-            {-1, -2}, {hold, -1}, {21, 0}, {hold, -4}, {MAX, 0}, {hold, MIN}, {0, 0}, {15, 16}, {7, 0}, {0, MAX}};
+            {-1, -2}, {-1, -4}, {-3, -4}, {hold, -1}, {21, 0}, {hold, -4}, {MAX, 0}, {hold, MIN}, {0, 0}, {15, 16}, {7, 0}, {0, MAX}};
         for (int[] call : bad) {
             Check.due("same(" + call[0] + ", " + call[1] + ")", x.same(call[0], call[1]), -1);
         }
