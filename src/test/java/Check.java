@@ -2,19 +2,36 @@
 final class Check {
     private static int wrong = 0;
     private static int asked = 0;
+    private static String sentence = "";
+    private static int askedBefore = 0;
 
     private Check() {
     }
 
     static void due(String what, long got, long want) {
+        due(what + " answered", String.valueOf(got), String.valueOf(want));
+    }
+
+    private static void due(String what, String got, String want) {
         asked++;
-        if (got != want) {
+        if (!got.equals(want)) {
             wrong++;
-            System.out.println(what + " answered " + got + ", due is " + want);
+            System.out.println((sentence.isEmpty() ? "" : "[" + sentence + "] ") + what + " " + got + ", due is " + want);
         }
     }
 
+    /** What follows tests this sentence of the document: a failure names it, and none may go untested. */
+    static void sentence(String words) {
+        if (!sentence.isEmpty() && asked == askedBefore) {
+            wrong++;
+            System.out.println("[" + sentence + "] has no test");
+        }
+        sentence = words;
+        askedBefore = asked;
+    }
+
     static void end() {
+        sentence("");
         System.out.println(asked + " answers, " + wrong + " not as due");
         if (wrong != 0 || asked == 0) {
             System.exit(1);
@@ -61,15 +78,17 @@ final class Check {
         due("orders of '" + text + "'", x.count(3), orders);
     }
 
+    /** As fails, with a ^ (which is not fed) ahead of the place. */
+    static void failsAt(PronounOrders x, String marked, int fault, int orders) {
+        int place = marked.indexOf('^');
+        fails(x, marked.substring(0, place) + marked.substring(place + 1), fault, place, orders);
+    }
+
     /** ORDER i is: actor, verb, preposition, things before it, things behind it. */
     static void order(PronounOrders x, int i, String want) {
         String got = x.order(i, 0) + " " + x.order(i, 1) + " " + x.order(i, 2)
                 + " " + side(x, i, 0) + " " + side(x, i, 1);
-        asked++;
-        if (!got.equals(want)) {
-            wrong++;
-            System.out.println("order " + i + " is " + got + ", due is " + want);
-        }
+        due("order " + i + " is", got, want);
     }
 
     private static String side(PronounOrders x, int i, int side) {
@@ -92,11 +111,7 @@ final class Check {
             }
             got.append("]");
         }
-        asked++;
-        if (!got.toString().equals(want)) {
-            wrong++;
-            System.out.println("the table is " + got + ", due is " + want);
-        }
+        due("the table is", got.toString(), want);
     }
 
     // Things of the world: 1 lamp, 2 red box, 3 bob, 4 ann, 5 coins, 6 blue box, 7 tom.
