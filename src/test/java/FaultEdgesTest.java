@@ -237,6 +237,8 @@ public final class FaultEdgesTest {
         PronounOrders x = Check.world();
         Check.failsAt(x, "^again", 6, 0);
         Check.failsAt(x, ". then please ^again", 6, 0);
+        Check.failsAt(x, "^again xyzzy", 6, 0);
+        Check.failsAt(x, "^again, look", 6, 0);
         Check.failsAt(x, "take ^xyzzy", 2, 0);
         Check.failsAt(x, "^again. look", 6, 0);
         Check.failsAt(x, "look ^lamp", 3, 0);
@@ -279,6 +281,7 @@ public final class FaultEdgesTest {
         for (int thing : new int[] {3, 1, 5, 2}) {
             x.see(thing, false);
             Check.failsAt(x, "please ^again", 7, 0);
+            Check.failsAt(x, "^again xyzzy", 7, 0);
             x.see(thing, true);
             Check.reads(x, "again", 1);
         }
@@ -339,6 +342,8 @@ public final class FaultEdgesTest {
         Check.failsAt(x, ten + "^look", 9, 10);
         Check.failsAt(x, ten + "^again", 9, 10);
         Check.failsAt(x, ten + "please ^take lamp", 9, 10);
+        Check.failsAt(x, ten + "^take xyzzy", 9, 10);
+        Check.failsAt(x, ten + "^again xyzzy", 9, 10);
         Check.failsAt(x, ten + "bob, ^look", 9, 10);
         Check.failsAt(x, ten + "tell bob to ^look", 9, 10);
         String nine = "look.".repeat(9);
@@ -350,7 +355,7 @@ public final class FaultEdgesTest {
         Check.reads(x, "look and ".repeat(9) + "look", 10);
         Check.failsAt(x, "look and ".repeat(10) + "^look and look", 9, 10);
         Check.reads(x, nine + "again" + ".then".repeat(10), 10);
-        Check.due("orders of all lines", x.count(4), 140);
+        Check.due("orders of all lines", x.count(4), 160);
         Check.reads(x, "look", 1);
     }
 

@@ -124,6 +124,8 @@ public final class GrammarEdgesTest {
         Check.reads(x, "then", 0);
         Check.reads(x, "...then then.. .", 0);
         Check.reads(x, ".".repeat(200), 0);
+        Check.failsAt(x, ".".repeat(199) + "^,", 3, 0);
+        Check.failsAt(x, ".".repeat(199) + "^x", 2, 0);
         Check.reads(x, "then. look", 1);
         Check.reads(x, "look", 1);
         Check.reads(x, "look.", 1);
@@ -364,6 +366,23 @@ public final class GrammarEdgesTest {
         x.own(2, 0);
         Check.reads(x, "take my box. bob, take my box", 2);
         Check.order(x, 1, "3 0 -4 [2] []");
+        whoseIsThePlayer();
+    }
+
+    /** THE PLAYER is nobody's, also not its own, until it has an OWNER. */
+    private static void whoseIsThePlayer() {
+        PronounOrders x = Check.world();
+        Check.due("hero", Check.word(x, "hero", 0), 18);
+        x.name(18, 0, 0);
+        Check.reads(x, "take hero. take bob. take ann", 3);
+        Check.failsAt(x, "take my ^hero", 4, 0);
+        Check.failsAt(x, "take his ^hero", 4, 0);
+        x.own(0, 4);
+        Check.failsAt(x, "take his ^hero", 4, 0);
+        Check.reads(x, "take her hero", 1);
+        Check.order(x, 0, "0 0 -4 [0] []");
+        x.own(0, PronounOrders.NONE);
+        Check.failsAt(x, "take her ^hero", 4, 0);
     }
 
     private static void allMeans() {
@@ -434,6 +453,11 @@ public final class GrammarEdgesTest {
         Check.reads(x, "put tom, lamp but lamp in lamp and take lamp", 2);
         Check.order(x, 0, "0 1 4 [7] [1]");
         Check.order(x, 1, "0 0 -4 [1] []");
+        // What was taken away is no longer in the LIST, so it need not be SEEN.
+        Check.reads(x, "take tom, coins, ann but ann", 1);
+        x.see(4, false);
+        Check.reads(x, "again. take them", 2);
+        Check.order(x, 1, "0 0 -4 [7,5] []");
     }
 
     private static void tableOfOne() {
